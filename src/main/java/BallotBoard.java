@@ -8,7 +8,7 @@ public final class BallotBoard {
     private static final int BALLOT = 2;
     private static final int SHARE = 3;
 
-    /** Where the numbers of an entry stand in its row; a key and a share have c and z one earlier. */
+    /** Where the numbers of an entry stand in its row: HEAD is h of a key, s of a share. */
     private static final int KIND = 0;
     private static final int WHO = 1;
     private static final int HEAD = 2;
@@ -321,7 +321,15 @@ public final class BallotBoard {
         }
 
         long power(long x, long e) {
-            return powers(x, e, 1, 0);
+            long base = reduced(x, square);
+            long product = one;
+            for (int bit = bits - 1; bit >= 0; bit--) {
+                product = reduced(product, product);
+                if ((e >>> bit & 1) == 1) {
+                    product = reduced(product, base);
+                }
+            }
+            return reduced(product, 1);
         }
 
         /** x ** e * y ** f: both together, as they share their squarings. */
@@ -719,16 +727,6 @@ public final class BallotBoard {
             shareOf = new long[MOST_TRUSTEES];
             aOf = new long[VOTERS];
             bOf = new long[VOTERS];
-            group = null;
-            trustees = 0;
-            keys = 0;
-            ballots = 0;
-            shares = 0;
-            keyProduct = 1;
-            shareProduct = 1;
-            productA = 0;
-            productB = 0;
-            shut = false;
         }
 
         void start(Group newGroup, int newTrustees) {
