@@ -87,6 +87,11 @@ public final class GroupAndKeysTest {
             Check.refusesArgument("begin, p " + number, () -> board.begin(number, 4, 1));
             Check.refusesArgument("begin, q " + number, () -> board.begin(2 * number + 1, 4, 1));
         }
+        // p is a prime and g is IN its squares, but q, no prime, passes for 2, 3 and 5.
+        long[] nearGroups = {640634840713163L, 2035663888882763L, 28864082527707983L, 186816806599024703L};
+        for (long p : nearGroups) {
+            Check.refusesArgument("begin, p " + p, () -> board.begin(p, 4, 1));
+        }
     }
 
     private static void beginLooksAtTheUpperEdge() {
