@@ -6,46 +6,14 @@ public final class GroupAndKeysTest {
     }
 
     public static void main(String[] args) {
-        newObjectHasNothing();
-        newObjectRefusesAll();
         beginTakesGroups();
         beginRefusesOtherNumbers();
         beginRefusesPseudoprimes();
-        beginLooksAtTheUpperEdge();
-        beginLooksAtTrustees();
-        refusedBeginChangesNothing();
         beginMakesAllAnew();
         keyTakesJustWhatIsProved();
-        keyLooksAtTheStateFirst();
         keyRefusesWrongNumbers();
         makeKeyGoesByTheRules();
-        makeKeyRefusesWrongNumbers();
         Check.end();
-    }
-
-    private static void newObjectHasNothing() {
-        BallotBoard board = new BallotBoard();
-        for (int what = 0; what <= 10; what++) {
-            int asked = what;
-            Check.answers("new: count(" + what + ")", 0, () -> board.count(asked));
-        }
-    }
-
-    private static void newObjectRefusesAll() {
-        BallotBoard board = new BallotBoard();
-        Check.refusesState("new: key", () -> board.key(-1, 1, -1, 0));
-        Check.refusesState("new: makeKey", () -> board.makeKey(9, -1, 0));
-        Check.refusesState("new: ballot", () -> board.ballot(-1, 1, 1, -1, 0, 0, 0));
-        Check.refusesState("new: makeBallot", () -> board.makeBallot(64, true, -1, 0, 0, 0));
-        Check.refusesState("new: close", board::close);
-        Check.refusesState("new: share", () -> board.share(-1, 1, -1, 0));
-        Check.refusesState("new: makeShare", () -> board.makeShare(0, 0, 0));
-        Check.refusesState("new: result", board::result);
-        Check.refusesState("new: audit", board::audit);
-        Check.refusesIndex("new: entry", () -> board.entry(0, 0));
-        Check.refusesIndex("new: chain", () -> board.chain(0, 0));
-        Check.refusesIndex("new: spoil", () -> board.spoil(0, 2, 1));
-        Check.refusesArgument("new: count", () -> board.count(11));
     }
 
     private static void beginTakesGroups() {
@@ -84,59 +52,14 @@ public final class GroupAndKeysTest {
         long[] pseudoprimes = {2047, 1373653, 25326001, 3215031751L, 2152302898747L, 3474749660383L, 341550071728321L};
         BallotBoard board = new BallotBoard();
         for (long number : pseudoprimes) {
-            Check.refusesArgument("begin, p " + number, () -> board.begin(number, 4, 1));
-            Check.refusesArgument("begin, q " + number, () -> board.begin(2 * number + 1, 4, 1));
+            Edge.refusesArgument("begin, p " + number, board, () -> board.begin(number, 4, 1));
+            Edge.refusesArgument("begin, q " + number, board, () -> board.begin(2 * number + 1, 4, 1));
         }
         // p is a prime and g is IN its squares, but q, no prime, passes for 2, 3 and 5.
         long[] nearGroups = {640634840713163L, 2035663888882763L, 28864082527707983L, 186816806599024703L};
         for (long p : nearGroups) {
-            Check.refusesArgument("begin, p " + p, () -> board.begin(p, 4, 1));
+            Edge.refusesArgument("begin, p " + p, board, () -> board.begin(p, 4, 1));
         }
-    }
-
-    private static void beginLooksAtTheUpperEdge() {
-        BallotBoard board = new BallotBoard();
-        long edge = 1L << 61;
-        Check.refusesArgument("begin, p 2 ** 61", () -> board.begin(edge, 4, 1));
-        Check.refusesArgument("begin, p 2 ** 61 - 1", () -> board.begin(edge - 1, 4, 1));
-        long above = edge + 3;
-        while (!isSafe(above)) {
-            above += 4;
-        }
-        long beyond = above;
-        Check.refusesArgument("begin, the first fitting p beyond 2 ** 61", () -> board.begin(beyond, 4, 1));
-        long below = edge - 1;
-        while (!isSafe(below)) {
-            below -= 4;
-        }
-        long last = below;
-        Check.answers("begin, the last p below 2 ** 61", (last - 1) / 2, () -> board.begin(last, 4, 1));
-    }
-
-    private static boolean isSafe(long p) {
-        return BigInteger.valueOf(p).isProbablePrime(60) && BigInteger.valueOf(p / 2).isProbablePrime(60);
-    }
-
-    private static void beginLooksAtTrustees() {
-        BallotBoard board = new BallotBoard();
-        for (int n = 1; n <= 4; n++) {
-            int trustees = n;
-            Check.answers("begin, n " + n, 11, () -> board.begin(23, 4, trustees));
-        }
-        int[] wrong = {0, 5, -1, Integer.MIN_VALUE, Integer.MAX_VALUE};
-        for (int trustees : wrong) {
-            Check.refusesArgument("begin, n " + trustees, () -> board.begin(23, 4, trustees));
-        }
-    }
-
-    private static void refusedBeginChangesNothing() {
-        Pair pair = Boards.shared("refused begin", 2, "101");
-        pair.begin(23, 4, 5);
-        pair.begin(23, 1, 2);
-        pair.begin(23, 5, 2);
-        pair.begin(25, 4, 2);
-        pair.everything();
-        Check.answers("refused begin: result()", 2, pair.board::result);
     }
 
     private static void beginMakesAllAnew() {
@@ -176,21 +99,6 @@ public final class GroupAndKeysTest {
         }
     }
 
-    private static void keyLooksAtTheStateFirst() {
-        Pair pair = Boards.begun("key, state", 2);
-        long[] row = pair.reference.keyByTheRules(1, 5, 6);
-        Check.answers("key(1, ..)", 0, () -> pair.board.key(1, row[2], row[3], row[4]));
-        Check.refusesState("key again", () -> pair.board.key(1, row[2], row[3], row[4]));
-        Check.refusesState("key again, wrong c", () -> pair.board.key(1, row[2], -1, row[4]));
-        Check.refusesState("makeKey again, wrong x", () -> pair.board.makeKey(1, 11, 0));
-        Check.refusesArgument("key(2, ..)", () -> pair.board.key(2, row[2], row[3], row[4]));
-        Check.answers("makeKey(0, 0, 10)", 1, () -> pair.board.makeKey(0, 0, 10));
-        Check.refusesArgument("key(2, ..), all keys there", () -> pair.board.key(2, row[2], row[3], row[4]));
-        Check.answers("close()", 0, pair.board::close);
-        Check.refusesState("key(2, ..), closed", () -> pair.board.key(2, row[2], row[3], row[4]));
-        Check.refusesState("makeKey(-1, ..), closed", () -> pair.board.makeKey(-1, 0, 0));
-    }
-
     private static void keyRefusesWrongNumbers() {
         Pair pair = new Pair("wrong keys");
         pair.begin(Boards.LARGE_P, 4, 4);
@@ -227,18 +135,5 @@ public final class GroupAndKeysTest {
         board.begin(23, 4, 1);
         board.makeKey(0, 3, 5);
         Check.answers("h of x 3", 18, () -> board.entry(0, 2));
-    }
-
-    private static void makeKeyRefusesWrongNumbers() {
-        Pair pair = Boards.begun("makeKey, wrong", 2);
-        long[] wrong = {-1, 11, 12, Long.MIN_VALUE, Long.MAX_VALUE};
-        for (long number : wrong) {
-            Check.refusesArgument("makeKey, x " + number, () -> pair.board.makeKey(0, number, 1));
-            Check.refusesArgument("makeKey, w " + number, () -> pair.board.makeKey(0, 1, number));
-        }
-        Check.refusesArgument("makeKey(-1, ..)", () -> pair.board.makeKey(-1, 1, 1));
-        Check.refusesArgument("makeKey(2, ..)", () -> pair.board.makeKey(2, 1, 1));
-        Check.answers("makeKey, wrong: count(6)", 0, () -> pair.board.count(6));
-        Check.answers("makeKey(1, 10, 10)", 0, () -> pair.board.makeKey(1, 10, 10));
     }
 }

@@ -5,17 +5,13 @@ public final class SharesAndResultTest {
 
     public static void main(String[] args) {
         shareTakesJustWhatIsProved();
-        shareLooksAtTheStateFirst();
         shareRefusesWrongNumbers();
         shareGoesByTheKeyAsItWasPosted();
         makeShareGoesByTheRules();
-        makeShareRefusesWrongNumbers();
         makeShareTakesAnySecretIfItsProofHolds();
         resultCountsYes();
-        resultIsTheLeast();
         resultReachesTheCount();
         resultMayBeNone();
-        resultLooksAtTheState();
         resultOfLargeGroup();
         Check.end();
     }
@@ -44,22 +40,6 @@ public final class SharesAndResultTest {
         pair.makeBallot(9, true, 2, 1, 0, 1);
         pair.close();
         return pair;
-    }
-
-    private static void shareLooksAtTheStateFirst() {
-        Pair open = Boards.withBallots("share, open", 1, "1");
-        Check.refusesState("share, open", () -> open.board.share(-1, 1, -1, 0));
-        Check.refusesState("makeShare, open", () -> open.board.makeShare(-1, -1, 0));
-        Pair pair = Boards.closed("share, state", 2, "11");
-        long[] row = pair.reference.shareByTheRules(1, Boards.secret(1), 8);
-        Check.answers("share(1, ..)", 4, () -> pair.board.share(1, row[2], row[3], row[4]));
-        Check.refusesState("share(1, ..) again", () -> pair.board.share(1, row[2], row[3], row[4]));
-        Check.refusesState("share(1, ..) again, wrong c", () -> pair.board.share(1, row[2], -1, row[4]));
-        Check.refusesState("makeShare(1, ..) again, wrong x", () -> pair.board.makeShare(1, -1, 0));
-        Check.refusesArgument("share(2, ..)", () -> pair.board.share(2, row[2], row[3], row[4]));
-        Check.answers("makeShare(0, ..)", 5, () -> pair.board.makeShare(0, Boards.secret(0), 8));
-        Check.refusesState("makeShare(0, ..) again", () -> pair.board.makeShare(0, Boards.secret(0), 8));
-        Check.answers("count(9)", 2, () -> pair.board.count(9));
     }
 
     private static void shareRefusesWrongNumbers() {
@@ -111,18 +91,6 @@ public final class SharesAndResultTest {
         }
     }
 
-    private static void makeShareRefusesWrongNumbers() {
-        Pair pair = Boards.closed("makeShare, wrong", 1, "1");
-        long[] wrong = {-1, 11, Long.MIN_VALUE, Long.MAX_VALUE};
-        for (long number : wrong) {
-            Check.refusesArgument("makeShare, x " + number, () -> pair.board.makeShare(0, number, 1));
-            Check.refusesArgument("makeShare, w " + number, () -> pair.board.makeShare(0, Boards.secret(0), number));
-        }
-        Check.refusesArgument("makeShare(-1, ..)", () -> pair.board.makeShare(-1, 1, 1));
-        Check.refusesArgument("makeShare(1, ..)", () -> pair.board.makeShare(1, 1, 1));
-        pair.everything();
-    }
-
     /** With another x the proof fails unless c is 0, or H happens to leave the same twice. */
     private static void makeShareTakesAnySecretIfItsProofHolds() {
         int taken = 0;
@@ -147,7 +115,7 @@ public final class SharesAndResultTest {
         large.makeKey(0, 5555555555L, 1);
         large.makeBallot(0, true, 7, 1, 2, 3);
         large.close();
-        Check.refusesArgument("makeShare, large, another x", () -> large.board.makeShare(0, 5555555556L, 9));
+        Edge.refusesArgument("makeShare, large, another x", large.board, () -> large.board.makeShare(0, 5555555556L, 9));
         Check.answers("makeShare, large", 2, () -> large.board.makeShare(0, 5555555555L, 9));
     }
 
@@ -161,20 +129,6 @@ public final class SharesAndResultTest {
                 pair.everything();
             }
         }
-    }
-
-    /** q is 3: five times yes is told as two. */
-    private static void resultIsTheLeast() {
-        Pair pair = new Pair("least result");
-        pair.begin(7, 2, 1);
-        pair.makeKey(0, 2, 1);
-        for (int i = 0; i < 5; i++) {
-            pair.makeBallot(i, true, i % 3, 1, 2, 0);
-        }
-        pair.close();
-        pair.makeShare(0, 2, 0);
-        Check.answers("least result", 2, pair.board::result);
-        pair.everything();
     }
 
     private static void resultReachesTheCount() {
@@ -206,21 +160,6 @@ public final class SharesAndResultTest {
             }
         }
         Check.holds("a share that leaves no result is found", none > 0);
-    }
-
-    private static void resultLooksAtTheState() {
-        Pair pair = Boards.withBallots("result, state", 2, "11");
-        Check.refusesState("result(), open", pair.board::result);
-        pair.close();
-        Check.refusesState("result() without shares", pair.board::result);
-        pair.makeShare(1, Boards.secret(1), 1);
-        Check.refusesState("result() with one share of two", pair.board::result);
-        pair.makeShare(0, Boards.secret(0), 1);
-        Check.answers("result()", 2, pair.board::result);
-        Check.answers("result() again", 2, pair.board::result);
-        pair.spoil(2, 3, 1);
-        pair.spoil(4, 2, 1);
-        Check.answers("result() of a spoiled board", 2, pair.board::result);
     }
 
     private static void resultOfLargeGroup() {

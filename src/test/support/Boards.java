@@ -15,6 +15,26 @@ final class Boards {
         return pair;
     }
 
+    static Pair large(String run, int trustees) {
+        Pair pair = new Pair(run);
+        pair.begin(LARGE_P, G, trustees);
+        return pair;
+    }
+
+    /** One trustee, no key. */
+    static BallotBoard begunWith(long p) {
+        BallotBoard board = new BallotBoard();
+        board.begin(p, G, 1);
+        return board;
+    }
+
+    /** The row with another number n. */
+    static long[] with(long[] row, int n, long number) {
+        long[] bent = row.clone();
+        bent[n] = number;
+        return bent;
+    }
+
     /** The trustees' secrets are 3, 5, 7, 9. */
     static Pair withKeys(String run, int trustees) {
         Pair pair = begun(run, trustees);

@@ -14,18 +14,6 @@ final class Check {
         compare(told, String.valueOf(due), outcome(call));
     }
 
-    static void refusesState(String told, Call call) {
-        compare(told, "throws.IllegalStateException", outcome(call));
-    }
-
-    static void refusesArgument(String told, Call call) {
-        compare(told, "throws.IllegalArgumentException", outcome(call));
-    }
-
-    static void refusesIndex(String told, Call call) {
-        compare(told, "throws.IndexOutOfBoundsException", outcome(call));
-    }
-
     static void holds(String told, boolean truth) {
         compare(told, "true", String.valueOf(truth));
     }
@@ -45,10 +33,6 @@ final class Check {
             wrong++;
             System.out.println(told + " answered " + got + ", due is " + due);
         }
-    }
-
-    static int wrongSoFar() {
-        return wrong;
     }
 
     static void end() {
