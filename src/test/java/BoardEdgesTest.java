@@ -23,6 +23,7 @@ public final class BoardEdgesTest {
         spoilHasTheBoundsOfEntry();
         spoilTakesAnyNumber();
         spoilLeavesAllButEntryAndAudit();
+        spoilLeavesWhatFollows();
         auditOfNothing();
         auditFindsTheFirstAndTheLast();
         auditFindsTheFirstOfTwo();
@@ -191,25 +192,33 @@ public final class BoardEdgesTest {
         Check.answers("chain(0, 3) of a new object", board.chain(0, 3), () -> other.chain(0, 3));
     }
 
-    /** "that of ENTRY k - 1 as it was made": a number that was spoiled since does not matter. */
+    /** "that of ENTRY k - 1 as it was made": numbers that were spoiled since do not matter. */
     private static void chainIsThatAsItWasMade() {
         BallotBoard spoiled = Boards.withBallots("chain", 1, "10").board;
         BallotBoard whole = Boards.withBallots("chain", 1, "10").board;
-        spoiled.spoil(2, 7, -1);
+        for (int n = 2; n < 8; n++) {
+            spoiled.spoil(2, n, -n);
+        }
         spoiled.spoil(0, 4, 99);
         Check.answers("entry after a spoiled one", 3, () -> spoiled.makeBallot(5, true, 5, 6, 7, 8));
         whole.makeBallot(5, true, 5, 6, 7, 8);
-        for (int k = 0; k < 4; k++) {
+        chainsAreThoseOf(whole, spoiled);
+        spoiled.spoil(0, 4, whole.entry(0, 4));
+        Check.answers("audit() with entry 2 spoiled", 2, spoiled::audit);
+        for (int n = 2; n < 8; n++) {
+            spoiled.spoil(2, n, whole.entry(2, n));
+        }
+        Check.answers("audit() with none spoiled", -1, spoiled::audit);
+    }
+
+    private static void chainsAreThoseOf(BallotBoard whole, BallotBoard board) {
+        for (int k = 0; k < whole.count(6); k++) {
             for (int word = 0; word < 4; word++) {
                 int entry = k;
                 int asked = word;
-                Check.answers("chain(" + k + ", " + word + ")", whole.chain(k, word), () -> spoiled.chain(entry, asked));
+                Check.answers("chain(" + k + ", " + word + ")", whole.chain(k, word), () -> board.chain(entry, asked));
             }
         }
-        spoiled.spoil(0, 4, whole.entry(0, 4));
-        Check.answers("audit() with entry 2 spoiled", 2, spoiled::audit);
-        spoiled.spoil(2, 7, whole.entry(2, 7));
-        Check.answers("audit() with none spoiled", -1, spoiled::audit);
     }
 
     /** Promise 13, "(2 and more; 0 and 1 are none here)". */
@@ -287,10 +296,35 @@ public final class BoardEdgesTest {
             int asked = what;
             Check.answers("spoiled: count(" + what + ")", whole.count(what), () -> board.count(asked));
         }
-        Check.answers("spoiled: result()", 2, board::result);
-        for (int k = 0; k < WIDTHS.length; k++) {
-            int entry = k;
-            Check.answers("spoiled: chain(" + k + ", 2)", whole.chain(k, 2), () -> board.chain(entry, 2));
+        Check.answers("spoiled: result()", whole.result(), board::result);
+        chainsAreThoseOf(whole, board);
+    }
+
+    /** The same where the election goes on behind the spoiling: each ENTRY is spoiled as soon as it is there. */
+    private static void spoilLeavesWhatFollows() {
+        BallotBoard whole = Boards.shared("whole", 2, "101").board;
+        BallotBoard board = Boards.begun("spoiled at once", 2).board;
+        spoilLast(board.makeKey(0, Boards.secret(0), 1), board);
+        spoilLast(board.makeKey(1, Boards.secret(1), 2), board);
+        for (int i = 0; i < 3; i++) {
+            spoilLast(board.makeBallot(i, i != 1, i + 2, 3 * i + 1, 5 * i % 11, (7 * i + 4) % 11), board);
+        }
+        Check.answers("spoiled at once: close()", 3, board::close);
+        spoilLast(board.makeShare(0, Boards.secret(0), 2), board);
+        spoilLast(board.makeShare(1, Boards.secret(1), 6), board);
+        staysAs(whole, board);
+        for (int k = WIDTHS.length - 1; k >= 0; k--) {
+            Check.answers("audit() with entries 0 to " + k + " spoiled", 0, board::audit);
+            for (int n = 2; n < WIDTHS[k]; n++) {
+                board.spoil(k, n, whole.entry(k, n));
+            }
+        }
+        Check.compare("all put back", Snapshot.of(whole), Snapshot.of(board));
+    }
+
+    private static void spoilLast(int k, BallotBoard board) {
+        for (int n = 2; n < WIDTHS[k]; n++) {
+            board.spoil(k, n, 13 + n);
         }
     }
 

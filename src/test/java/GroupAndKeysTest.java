@@ -9,6 +9,7 @@ public final class GroupAndKeysTest {
         beginTakesGroups();
         beginRefusesOtherNumbers();
         beginRefusesPseudoprimes();
+        beginRefusesCarmichaelNumbers();
         beginMakesAllAnew();
         keyTakesJustWhatIsProved();
         keyRefusesWrongNumbers();
@@ -59,6 +60,15 @@ public final class GroupAndKeysTest {
         long[] nearGroups = {640634840713163L, 2035663888882763L, 28864082527707983L, 186816806599024703L};
         for (long p : nearGroups) {
             Edge.refusesArgument("begin, p " + p, board, () -> board.begin(p, 4, 1));
+        }
+    }
+
+    /** q is no prime though x ** (q - 1) leaves 1 for all x that share nothing with it; p is a prime. */
+    private static void beginRefusesCarmichaelNumbers() {
+        long[] numbers = {939947009L, 105528976961L, 207222530621L, 1785176965601L, 2537027434481L};
+        BallotBoard board = new BallotBoard();
+        for (long q : numbers) {
+            Edge.refusesArgument("begin, q " + q, board, () -> board.begin(2 * q + 1, 4, 1));
         }
     }
 
